@@ -317,16 +317,18 @@ public final class HorizonDues {
         if (present().allWithin(houses, much)) {
             return keepFirs(0, 0, 0);
         }
-        long free = scene.freeCells();
+        // Where none of them looks a fir changes nothing, alone or beside another one.
+        long tried = scene.freeCells() & scene.looksOver(houses);
         for (int first = 0; first < MOST_CELLS; first++) {
-            if (hasBit(free, first) && firHelps(first, houses, much)) {
+            if (hasBit(tried, first) && firsHelp(first, NONE, houses, much)) {
                 return keepFirs(1, first, 0);
             }
         }
         for (int first = 0; first < MOST_CELLS; first++) {
-            int second = hasBit(free, first) ? secondFir(first, free, houses, much) : NONE;
-            if (second != NONE) {
-                return keepFirs(2, first, second);
+            for (int second = first + 1; second < MOST_CELLS && hasBit(tried, first); second++) {
+                if (hasBit(tried, second) && firsHelp(first, second, houses, much)) {
+                    return keepFirs(2, first, second);
+                }
             }
         }
         return NONE;
@@ -339,23 +341,13 @@ public final class HorizonDues {
         return many;
     }
 
-    private boolean firHelps(int cell, int houses, int much) {
-        scene.stand[cell] += FULL_GROWN;
-        boolean helps = scene.allWithin(houses, much);
-        scene.stand[cell] -= FULL_GROWN;
-        return helps;
-    }
-
-    private int secondFir(int first, long free, int houses, int much) {
-        int found = NONE;
-        scene.stand[first] += FULL_GROWN;
-        for (int second = first + 1; second < MOST_CELLS && found == NONE; second++) {
-            if (hasBit(free, second) && firHelps(second, houses, much)) {
-                found = second;
-            }
-        }
-        scene.stand[first] -= FULL_GROWN;
-        return found;
+    private boolean firsHelp(int first, int second, int houses, int much) {
+        scene.raise(first, FULL_GROWN);
+        scene.raise(second, FULL_GROWN);
+        boolean help = scene.allWithin(houses, much);
+        scene.raise(first, -FULL_GROWN);
+        scene.raise(second, -FULL_GROWN);
+        return help;
     }
 
     public int fir(int i) throws NoSuchElementException {
@@ -475,8 +467,8 @@ public final class HorizonDues {
 
     private int lossOf(int house, int other, int much, int mine, int theirs) {
         present();
-        scene.stand[land.houseCell[house]] += mine * much;
-        scene.stand[land.houseCell[other]] += theirs * much;
+        scene.raise(land.houseCell[house], mine * much);
+        scene.raise(land.houseCell[other], theirs * much);
         return scene.taxOf(house);
     }
 
@@ -516,11 +508,15 @@ public final class HorizonDues {
     }
 
     public int cheat() {
-        int fewest = Integer.bitCount(present().housesThatLie(affairs));
+        int liars = present().housesThatLie(affairs);
+        // Only what a liar looks over can make him honest.
+        long tried = scene.looksOver(liars);
+        int fewest = Integer.bitCount(liars);
         int best = NONE;
-        for (int cell = 0; cell < land.cells() && fewest > 0; cell++) {
+        for (int cell = 0; cell < land.cells(); cell++) {
+            boolean tries = hasBit(tried, cell) && land.houseIn(cell) == NONE;
             int was = scene.height[cell];
-            for (int height = 0; height <= MOST_HEIGHT && land.houseIn(cell) == NONE; height++) {
+            for (int height = 0; height <= MOST_HEIGHT && tries; height++) {
                 scene.reshape(cell, height);
                 int lying = Integer.bitCount(scene.housesThatLie(affairs));
                 if (lying < fewest) {
@@ -621,13 +617,13 @@ public final class HorizonDues {
         }
         present();
         int cell = land.houseCell[other];
-        int bare = scene.stand[cell] - scene.row[BARN + other];
+        scene.raise(cell, -scene.row[BARN + other]);
         int best = 0;
-        int least = 0;
-        for (int barn = 0; barn <= MOST_BARN; barn++) {
-            scene.stand[cell] = bare + barn;
+        int least = scene.taxOf(house);
+        for (int barn = 1; barn <= MOST_BARN; barn++) {
+            scene.raise(cell, 1);
             int tax = scene.taxOf(house);
-            if (barn == 0 || tax < least) {
+            if (tax < least) {
                 best = barn;
                 least = tax;
             }
@@ -881,8 +877,8 @@ public final class HorizonDues {
         private int allSteps;
         private int farthest;
         private long view;
+        private long over;
         private final int[] stack = new int[MOST_STACK];
-        private int top;
 
         Scene(Land first) {
             land = first;
@@ -894,27 +890,28 @@ public final class HorizonDues {
             System.arraycopy(shown.height, 0, height, 0, MOST_CELLS);
             System.arraycopy(shown.height, 0, stand, 0, MOST_CELLS);
             for (int tree = 0; tree < MOST_TREES; tree++) {
-                int cell = row[TREE_CELL + tree];
-                if (cell >= 0 && cell < stand.length) {
-                    stand[cell] += row[TREE_HIGH + tree];
-                }
+                raise(row[TREE_CELL + tree], row[TREE_HIGH + tree]);
             }
             for (int house = 0; house < land.houses; house++) {
-                stand[land.houseCell[house]] += HOUSE_STANDS + row[BARN + house];
+                raise(land.houseCell[house], HOUSE_STANDS + row[BARN + house]);
             }
             fog = land.fogOf(row[YEAR]);
         }
 
+        /** What stands in a cell is so much higher; nothing is, where there is no cell. */
+        void raise(int cell, int more) {
+            if (cell >= 0 && cell < stand.length) {
+                stand[cell] += more;
+            }
+        }
+
         void reshape(int cell, int newHeight) {
-            stand[cell] += newHeight - height[cell];
+            raise(cell, newHeight - height[cell]);
             height[cell] = newHeight;
         }
 
         void dropTree(int tree) {
-            int cell = row[TREE_CELL + tree];
-            if (cell >= 0 && cell < stand.length) {
-                stand[cell] -= row[TREE_HIGH + tree];
-            }
+            raise(row[TREE_CELL + tree], -row[TREE_HIGH + tree]);
             row[TREE_CELL + tree] = NONE;
         }
 
@@ -941,6 +938,7 @@ public final class HorizonDues {
             allSteps = 0;
             farthest = 0;
             view = 0L;
+            over = 0L;
             for (int direction = 0; direction < DIRECTIONS; direction++) {
                 boolean shut = kind == BLIND || hasBit(sold, direction);
                 int far = shut ? 0 : lookAlong(direction);
@@ -965,6 +963,7 @@ public final class HorizonDues {
                 }
                 int cell = wide * y + x;
                 int higher = stand[cell] - eye;
+                over |= 1L << cell;
                 // Slopes are compared crosswise, for no fraction is exact; the last one seen is the steepest.
                 if (far == 0 || higher * far > rise * k) {
                     far = k;
@@ -973,6 +972,18 @@ public final class HorizonDues {
                 }
             }
             return far;
+        }
+
+        /** All cells, seen or hidden, in the views of some houses. */
+        long looksOver(int houses) {
+            long cells = 0L;
+            for (int house = 0; house < land.houses; house++) {
+                if (hasBit(houses, house)) {
+                    lookFrom(house);
+                    cells |= over;
+                }
+            }
+            return cells;
         }
 
         int milesOf(int house) {
@@ -1086,11 +1097,9 @@ public final class HorizonDues {
                 paid += tax;
             }
             for (int tree = 0; tree < MOST_TREES; tree++) {
-                int cell = row[TREE_CELL + tree];
-                boolean grows = row[TREE_HIGH + tree] < row[TREE_TOP + tree];
-                if (cell >= 0 && cell < stand.length && grows) {
+                if (row[TREE_CELL + tree] != NONE && row[TREE_HIGH + tree] < row[TREE_TOP + tree]) {
                     row[TREE_HIGH + tree]++;
-                    stand[cell]++;
+                    raise(row[TREE_CELL + tree], 1);
                 }
             }
             row[YEAR]++;
@@ -1103,28 +1112,21 @@ public final class HorizonDues {
             if (law < 0 || law >= land.laws) {
                 return allSteps;
             }
-            top = 0;
+            int top = 0;
             int end = Math.min(land.lawEnd[law], land.code.length);
             for (int i = law == 0 ? 0 : land.lawEnd[law - 1]; i < end; i++) {
-                obeyOne(land.code[i]);
-            }
-            return top > 0 ? Math.max(0, Math.min(MOST_TAX, stack[0])) : 0;
-        }
-
-        private void obeyOne(int code) {
-            if (code >= MILES_VALUE) {
-                if (top < stack.length) {
+                int code = land.code[i];
+                if (code >= MILES_VALUE && top < stack.length) {
                     stack[top] = code >= NUMBERS_FROM ? code - NUMBERS_FROM : valueOf(code);
                     top++;
-                }
-            } else if (code == NOT) {
-                if (top >= 1) {
+                } else if (code == NOT && top >= 1) {
                     stack[top - 1] = stack[top - 1] == 0 ? 1 : 0;
+                } else if (code < MILES_VALUE && top >= 2) {
+                    top--;
+                    stack[top - 1] = together(code, stack[top - 1], stack[top]);
                 }
-            } else if (top >= 2) {
-                top--;
-                stack[top - 1] = together(code, stack[top - 1], stack[top]);
             }
+            return top > 0 ? Math.max(0, Math.min(MOST_TAX, stack[0])) : 0;
         }
 
         private int valueOf(int code) {
@@ -1155,6 +1157,8 @@ public final class HorizonDues {
 
     /** The shortest way from a cell to all houses; rows are tried in their order, so the first of like ones stays. */
     private static final class Walk {
+        private static final int MORE_THAN_ANY = 1000;
+
         private Land land;
         private final int[] best = new int[MOST_HOUSES];
         private final int[] trial = new int[MOST_HOUSES];
@@ -1163,7 +1167,7 @@ public final class HorizonDues {
 
         int find(Land walked, int cell) {
             land = walked;
-            fewest = Integer.MAX_VALUE;
+            fewest = MORE_THAN_ANY;
             stops = walked.houses;
             goOn(cell, 0, 0, 0);
             return fewest;
@@ -1202,6 +1206,7 @@ public final class HorizonDues {
         private static final int WORD = 1;
         private static final int NUMBER = 2;
         private static final int STRANGE = 3;
+        private static final int MOST_DIGITS = 4;
         private static final int TOO_LONG = 10000;
 
         // What stands next within a LAW.
@@ -1285,19 +1290,15 @@ public final class HorizonDues {
                     end++;
                 }
             } else if (isDigit(text[start])) {
-                takeNumber();
+                kind = NUMBER;
+                number = 0;
+                while (end < length && isDigit(text[end])) {
+                    number = end - start < MOST_DIGITS ? 10 * number + text[end] - '0' : TOO_LONG;
+                    end++;
+                }
             } else {
                 kind = isSign(text[start]) ? text[start] : STRANGE;
                 end = start + 1;
-            }
-        }
-
-        private void takeNumber() {
-            kind = NUMBER;
-            number = 0;
-            while (end < length && isDigit(text[end])) {
-                number = end - start < 4 ? 10 * number + text[end] - '0' : TOO_LONG;
-                end++;
             }
         }
 
@@ -1343,7 +1344,8 @@ public final class HorizonDues {
         }
 
         private int takenCell(long used) {
-            int x = takenNumber(0, land.wide - 1);
+            int x = numberHere(0, land.wide - 1);
+            take();
             int y = numberHere(0, land.deep - 1);
             int cell = land.wide * y + x;
             if (hasBit(used, cell)) {
