@@ -999,9 +999,7 @@ public final class HorizonDues {
         private int housesInView() {
             int bits = 0;
             for (int house = 0; house < land.houses; house++) {
-                if (hasBit(view, land.houseCell[house])) {
-                    bits |= 1 << house;
-                }
+                bits |= (int) (view >>> land.houseCell[house] & 1L) << house;
             }
             return bits;
         }
