@@ -141,6 +141,9 @@ public final class FaultsTest {
         at(4, "blind 1 2 3;villa 1 @2 3;");
         at(4, "blind 1 2 3;tree 1 @2 x 3;");
         at(4, "high 1 0 0;high 1 @0 0;");
+        at(4, "tree 1 2 3 3;inn 2 2 3;villa 1 @2 3;");
+        at(4, "inn 1 2 3;tree 2 2 3 3;villa 1 @2 3;");
+        at(4, "high 1 2 3;high 2 2 3;high 1 @2 3;");
         fine("tree 1 2 3 3;high 1 2 3;");
         fine("high 1 2 3;inn 1 2 3;");
         fine("inn 1 2 3;high 1 2 3;");
@@ -233,6 +236,11 @@ public final class FaultsTest {
         fine("tax miles+far+high+kind+year+houses+floor;");
         at(3, "tax @view;");
         at(3, "tax @mile;");
+        at(3, "tax @z;");
+        at(3, "tax @a;");
+        at(1, "tax @`;");
+        at(1, "tax @{;");
+        at(1, "tax 1@:;");
         at(3, "tax @miless;");
         at(3, "tax @tax;");
         at(3, "tax @and;");

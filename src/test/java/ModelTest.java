@@ -138,7 +138,7 @@ public final class ModelTest {
             int c = cells.get(at++);
             String[] kinds = {"villa", "inn", "villa", "inn", "blind"};
             s.append(kinds[random.nextInt(5)]).append(' ').append(c % w).append(' ').append(c / w).append(' ')
-                .append(any(0, one(3) ? 999 : 200)).append(';');
+                .append(any(0, one(3) ? 999 : one(2) ? 200 : 30)).append(';');
         }
         int trees = one(5) ? 12 : any(0, 6);
         for (int i = 0; i < trees && at < cells.size(); i++) {

@@ -241,6 +241,8 @@ public final class PromisesTest {
         law("10-(3-2)", 9);
         law("100/5/2", 10);
         law("100/5*2", 40);
+        law("5*3/2", 7);
+        law("5-3+2", 4);
         law("1<2", 1);
         law("2<2", 0);
         law("2<1", 0);
@@ -478,6 +480,16 @@ public final class PromisesTest {
         HorizonDues y = Check.landOf("land 8 1;villa 7 0 0;");
         check.same("one", 1, y.firs(1, 5));
         check.same("least cell", 2, y.fir(0));
+        // Slopes 7 and 8: a fir of 10 would hide what is 18 high behind it, one of 9 does not.
+        check.same("nine high", -1, Check.landOf("land 3 1;villa 0 0 0;high 2 0 9;tree 2 0 9 9;").firs(1, 1));
+        // Behind a ridge a fir is seen: by such a law that helps.
+        HorizonDues left = Check.landOf("land 3 1;villa 2 0 0;high 1 0 2;tax 9-miles;");
+        check.same("one in cell 0", 1, left.firs(1, 7));
+        check.same("cell 0", 0, left.fir(0));
+        HorizonDues both = Check.landOf("land 5 1;villa 2 0 0;high 1 0 2;high 3 0 2;tax 9-miles;");
+        check.same("two at the ends", 2, both.firs(1, 5));
+        check.same("cell 0", 0, both.fir(0));
+        check.same("cell 4", 4, both.fir(1));
         // Twelve trees stand already; a fir would be one more all the same.
         StringBuilder full = new StringBuilder("villa 0 7 0;");
         for (int i = 0; i < 12; i++) {
@@ -680,6 +692,9 @@ public final class PromisesTest {
         check.same("from 7 on", 7, y.heights(0, 1));
         // By the cell of a house nobody cheats: only cell 1 (to 0) or 2 helps.
         check.same("not its own cell", 10, y.cheat());
+        HorizonDues z = Check.landOf("land 3 1;villa 2 0 0;high 1 0 2;");
+        z.tell(0, 2);
+        check.same("cell 0 above the ridge", 3, z.cheat());
     }
 
     // promise 34
