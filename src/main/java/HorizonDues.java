@@ -89,10 +89,10 @@ public final class HorizonDues {
         land = new Land();
         draft = new Land();
         tape = new byte[MOST_BYTES];
-        reader = new Reader();
+        reader = new Reader(tape, draft);
         scene = new Scene(land);
         affairs = new Affairs();
-        walk = new Walk();
+        walk = new Walk(land);
         firCells = new int[MOST_FIRS];
         affairs.begin(land);
         faultPlace = NONE;
@@ -123,7 +123,7 @@ public final class HorizonDues {
         if (n < 0 || n > taped) {
             throw new IllegalArgumentException("the tape has not so many bytes");
         }
-        reader.read(tape, n, draft);
+        reader.read(n, draft);
         taped = 0;
         if (reader.flaw != 0) {
             faultPlace = reader.place;
@@ -1163,6 +1163,10 @@ public final class HorizonDues {
         private int stops;
         private int fewest;
 
+        Walk(Land first) {
+            land = first;
+        }
+
         int find(Land walked, int cell) {
             land = walked;
             fewest = MORE_THAN_ANY;
@@ -1225,7 +1229,7 @@ public final class HorizonDues {
         private static final int TAKEN = 4;
         private static final int SECOND_FOG = 5;
 
-        private byte[] text = new byte[0];
+        private final byte[] text;
         private int length;
         private int start;
         private int end;
@@ -1243,9 +1247,13 @@ public final class HorizonDues {
         private int within;
         private int nots;
 
-        void read(byte[] tape, int bytes, Land draft) {
+        Reader(byte[] tape, Land first) {
             text = tape;
-            length = Math.min(bytes, tape.length);
+            land = first;
+        }
+
+        void read(int bytes, Land draft) {
+            length = Math.min(bytes, text.length);
             end = 0;
             flaw = 0;
             place = NONE;
