@@ -56,6 +56,15 @@ public final class FaultsTest {
         check.same("a part of the tape", 0, x.duchy(6));
         check.same("one law", 1, x.count(4));
         check.same("rest is gone", 0, x.count(11));
+        // A token ends where the text does, whatever stands behind it on the tape.
+        Check.put(x, "fog 12;");
+        check.same("a number cut off", 1, x.duchy(5));
+        check.same("its end", 5, x.fault());
+        Check.put(x, "fogs 1;");
+        check.same("a word cut off", 1, x.duchy(3));
+        check.same("its end", 3, x.fault());
+        check.same("a word at the very end", 1, Check.told(x, " ".repeat(691) + "tax miles"));
+        check.same("its end", 700, x.fault());
         // The highest byte comes first, and bytes above 127 are no tokens.
         x.feed(0x66ff6f67, 0, 0, 0, 0);
         check.same("strange byte", 1, x.duchy(20));
@@ -78,6 +87,9 @@ public final class FaultsTest {
         at(1, "fog 1;@land 1 1;");
         at(1, "@;");
         at(1, "@lands 1 1;");
+        at(1, "@sand 1 1;");
+        at(1, "@lant 1 1;");
+        at(1, "@wax 1;");
         at(1, "@Land 1 1;");
         at(1, "@miles;");
         at(1, "@1;");
@@ -236,6 +248,7 @@ public final class FaultsTest {
         fine("tax miles+far+high+kind+year+houses+floor;");
         at(3, "tax @view;");
         at(3, "tax @mile;");
+        at(3, "tax @piles;");
         at(3, "tax @z;");
         at(3, "tax @a;");
         at(1, "tax @`;");

@@ -695,6 +695,9 @@ public final class PromisesTest {
         HorizonDues z = Check.landOf("land 3 1;villa 2 0 0;high 1 0 2;");
         z.tell(0, 2);
         check.same("cell 0 above the ridge", 3, z.cheat());
+        HorizonDues nine = Check.landOf("land 3 1;villa 2 0 0;high 1 0 5;");
+        nine.tell(0, 2);
+        check.same("by nine alone", 9, nine.cheat());
     }
 
     // promise 34
