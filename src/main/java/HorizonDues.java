@@ -1219,6 +1219,7 @@ public final class HorizonDues {
         private static final int CLOSED = 4;
         private static final int MOST_WITHIN = 6;
         private static final int MOST_NOTS = 6;
+        private static final int LEAST_RANK = 1;
         private static final int TEST_RANK = 4;
         // Within each of 7 EXPRS at most 12 wait: or, and, 6 times not, a test, a sum, a product, a parenthesis.
         private static final int MOST_WAITING = 128;
@@ -1516,13 +1517,13 @@ public final class HorizonDues {
 
         private int readBehind() {
             if (kind == ')' && within > 0) {
-                settle(OR);
+                settle(LEAST_RANK);
                 waits = Math.max(0, waits - 1);
                 within--;
                 return BEHIND;
             }
             if (kind == ';' && within == 0) {
-                settle(OR);
+                settle(LEAST_RANK);
                 return CLOSED;
             }
             int operator = operatorHere();
@@ -1563,7 +1564,7 @@ public final class HorizonDues {
 
         private static int rankOf(int operator) {
             switch (operator) {
-                case OR: return 1;
+                case OR: return LEAST_RANK;
                 case AND: return 2;
                 case NOT: return 3;
                 case LESS:
