@@ -2,6 +2,7 @@
 final class Check {
     private int wrong = 0;
     private int asked = 0;
+    private String about = "";
 
     interface Call {
         long answer();
@@ -29,8 +30,34 @@ final class Check {
         asked++;
         if (want != got) {
             wrong++;
-            System.out.println(what + " answered " + shown(got) + ", due is " + shown(want));
+            System.out.println(about + what + " answered " + shown(got) + ", due is " + shown(want));
         }
+    }
+
+    /** What is said ahead of each answer that is not as due. */
+    void about(String next) {
+        about = next;
+    }
+
+    long asked() {
+        return asked;
+    }
+
+    void fault(String text, int fault, int place) {
+        HorizonDues x = new HorizonDues();
+        same("duchy of " + text, fault, told(x, text));
+        same("fault of " + text, place, x.fault());
+        same("status of " + text, fault == 0 ? 0 : 1, x.count(12));
+    }
+
+    void fine(String text) {
+        fault(text, 0, -1);
+    }
+
+    /** The fault at the first '@' of the text, which is not part of it. */
+    void at(int fault, String marked) {
+        int place = marked.indexOf('@');
+        fault(marked.substring(0, place) + marked.substring(place + 1), fault, place);
     }
 
     static String shown(long answer) {

@@ -2,23 +2,6 @@
 public final class FaultsTest {
     private static final Check check = new Check();
 
-    private static void fault(String text, int fault, int place) {
-        HorizonDues x = new HorizonDues();
-        check.same("duchy of " + text, fault, Check.told(x, text));
-        check.same("fault of " + text, place, x.fault());
-        check.same("status of " + text, fault == 0 ? 0 : 1, x.count(12));
-    }
-
-    private static void fine(String text) {
-        fault(text, 0, -1);
-    }
-
-    /** The fault at the first '@' of the text, which is not part of it. */
-    private static void at(int fault, String marked) {
-        int place = marked.indexOf('@');
-        fault(marked.substring(0, place) + marked.substring(place + 1), fault, place);
-    }
-
     public static void main(String[] args) {
         tape();
         lines();
@@ -75,91 +58,91 @@ public final class FaultsTest {
     }
 
     private static void lines() {
-        fine("");
-        fine("  \n ");
-        fine("land 1 1;");
-        fine(" \n land\n1 8 ;");
-        fine("land8 0008;high7 0009;".replace("0009", "7 9"));
-        at(1, "land @; ");
-        at(1, "land 1@;");
-        at(1, "land 1 1 @1;");
-        at(1, "land 1 1;@land 1 1;");
-        at(1, "fog 1;@land 1 1;");
-        at(1, "@;");
-        at(1, "@lands 1 1;");
-        at(1, "@sand 1 1;");
-        at(1, "@lant 1 1;");
-        at(1, "@wax 1;");
-        at(1, "@Land 1 1;");
-        at(1, "@miles;");
-        at(1, "@1;");
-        at(1, "@12345;");
-        at(1, "@\t");
-        at(1, "high 0 0 1@\t;");
-        at(1, "high 0 0@.1;");
-        at(1, "high 0 0 @-1;");
-        at(1, "high @x 0 1;");
-        at(1, "high 0 @;");
-        at(1, "high 0 0 1 @2;");
-        at(1, "high 0 0 1 @12345;");
-        at(1, "tree 0 0 1@;");
-        at(1, "tree 0 0 1 1@");
-        at(1, "tree 0 0 1 1   @");
-        at(1, "tree@");
-        at(1, "villa 0 0@;");
-        at(1, "inn 0 0 5@fog");
-        at(1, "fog @;");
-        at(1, "fog 1 2 @tax");
-        at(1, "fog 1 2 @(");
-        fine("fog 1 2 3 4 5 6 7 8;");
-        fine("villa0 0 0;inn1 0 999;blind2 0 5;");
+        check.fine("");
+        check.fine("  \n ");
+        check.fine("land 1 1;");
+        check.fine(" \n land\n1 8 ;");
+        check.fine("land8 0008;high7 7 9;");
+        check.at(1, "land @; ");
+        check.at(1, "land 1@;");
+        check.at(1, "land 1 1 @1;");
+        check.at(1, "land 1 1;@land 1 1;");
+        check.at(1, "fog 1;@land 1 1;");
+        check.at(1, "@;");
+        check.at(1, "@lands 1 1;");
+        check.at(1, "@sand 1 1;");
+        check.at(1, "@lant 1 1;");
+        check.at(1, "@wax 1;");
+        check.at(1, "@Land 1 1;");
+        check.at(1, "@miles;");
+        check.at(1, "@1;");
+        check.at(1, "@12345;");
+        check.at(1, "@\t");
+        check.at(1, "high 0 0 1@\t;");
+        check.at(1, "high 0 0@.1;");
+        check.at(1, "high 0 0 @-1;");
+        check.at(1, "high @x 0 1;");
+        check.at(1, "high 0 @;");
+        check.at(1, "high 0 0 1 @2;");
+        check.at(1, "high 0 0 1 @12345;");
+        check.at(1, "tree 0 0 1@;");
+        check.at(1, "tree 0 0 1 1@");
+        check.at(1, "tree 0 0 1 1   @");
+        check.at(1, "tree@");
+        check.at(1, "villa 0 0@;");
+        check.at(1, "inn 0 0 5@fog");
+        check.at(1, "fog @;");
+        check.at(1, "fog 1 2 @tax");
+        check.at(1, "fog 1 2 @(");
+        check.fine("fog 1 2 3 4 5 6 7 8;");
+        check.fine("villa0 0 0;inn1 0 999;blind2 0 5;");
     }
 
     private static void numbers() {
-        at(2, "land @0 1;");
-        at(2, "land @9 1;");
-        at(2, "land @00001 1;");
-        at(2, "land 1 @0;");
-        at(2, "land 1 @9;");
-        at(2, "land 3 2;high @3 0 1;");
-        at(2, "land 3 2;high 0 @2 1;");
-        at(2, "high 0 0 @10;");
-        at(2, "high 0 0 @99999;");
-        fine("high 0 0 0;");
-        at(2, "tree @8 0 1 1;");
-        at(2, "tree 0 @8 1 1;");
-        at(2, "tree 0 0 @0 1;");
-        at(2, "tree 0 0 @10 10;");
-        at(2, "tree 0 0 2 @1;");
-        at(2, "tree 0 0 9 @10;");
-        fine("tree 0 0 9 9;");
-        fine("tree 0 0 1 1;");
-        at(2, "villa @8 0 1;");
-        at(2, "inn 0 @8 1;");
-        at(2, "blind 0 0 @1000;");
-        at(2, "blind 0 0 @00000;");
-        at(2, "fog @0;");
-        at(2, "fog 9 @10;");
-        at(2, "fog 9 @123456789012345678901;");
+        check.at(2, "land @0 1;");
+        check.at(2, "land @9 1;");
+        check.at(2, "land @00001 1;");
+        check.at(2, "land 1 @0;");
+        check.at(2, "land 1 @9;");
+        check.at(2, "land 3 2;high @3 0 1;");
+        check.at(2, "land 3 2;high 0 @2 1;");
+        check.at(2, "high 0 0 @10;");
+        check.at(2, "high 0 0 @99999;");
+        check.fine("high 0 0 0;");
+        check.at(2, "tree @8 0 1 1;");
+        check.at(2, "tree 0 @8 1 1;");
+        check.at(2, "tree 0 0 @0 1;");
+        check.at(2, "tree 0 0 @10 10;");
+        check.at(2, "tree 0 0 2 @1;");
+        check.at(2, "tree 0 0 9 @10;");
+        check.fine("tree 0 0 9 9;");
+        check.fine("tree 0 0 1 1;");
+        check.at(2, "villa @8 0 1;");
+        check.at(2, "inn 0 @8 1;");
+        check.at(2, "blind 0 0 @1000;");
+        check.at(2, "blind 0 0 @00000;");
+        check.at(2, "fog @0;");
+        check.at(2, "fog 9 @10;");
+        check.at(2, "fog 9 @123456789012345678901;");
         // The first along the text counts, whichever is less.
-        at(2, "high @8 x 1;");
-        at(1, "high @x 8 1;");
+        check.at(2, "high @8 x 1;");
+        check.at(1, "high @x 8 1;");
     }
 
     private static void cellsTwice() {
-        at(4, "high 1 2 3;high 1 @2 3;");
-        at(4, "tree 1 2 3 3;tree 1 @2 3 3;");
-        at(4, "tree 1 2 3 3;inn 1 @2 3;");
-        at(4, "blind 1 2 3;villa 1 @2 3;");
-        at(4, "blind 1 2 3;tree 1 @2 x 3;");
-        at(4, "high 1 0 0;high 1 @0 0;");
-        at(4, "tree 1 2 3 3;inn 2 2 3;villa 1 @2 3;");
-        at(4, "inn 1 2 3;tree 2 2 3 3;villa 1 @2 3;");
-        at(4, "high 1 2 3;high 2 2 3;high 1 @2 3;");
-        fine("tree 1 2 3 3;high 1 2 3;");
-        fine("high 1 2 3;inn 1 2 3;");
-        fine("inn 1 2 3;high 1 2 3;");
-        fine("high 1 2 3;high 2 1 3;");
+        check.at(4, "high 1 2 3;high 1 @2 3;");
+        check.at(4, "tree 1 2 3 3;tree 1 @2 3 3;");
+        check.at(4, "tree 1 2 3 3;inn 1 @2 3;");
+        check.at(4, "blind 1 2 3;villa 1 @2 3;");
+        check.at(4, "blind 1 2 3;tree 1 @2 x 3;");
+        check.at(4, "high 1 0 0;high 1 @0 0;");
+        check.at(4, "tree 1 2 3 3;inn 2 2 3;villa 1 @2 3;");
+        check.at(4, "inn 1 2 3;tree 2 2 3 3;villa 1 @2 3;");
+        check.at(4, "high 1 2 3;high 2 2 3;high 1 @2 3;");
+        check.fine("tree 1 2 3 3;high 1 2 3;");
+        check.fine("high 1 2 3;inn 1 2 3;");
+        check.fine("inn 1 2 3;high 1 2 3;");
+        check.fine("high 1 2 3;high 2 1 3;");
     }
 
     private static void limits() {
@@ -167,107 +150,107 @@ public final class FaultsTest {
         for (int i = 0; i < 12; i++) {
             trees.append("tree ").append(i % 8).append(' ').append(i / 8).append(" 1 1;");
         }
-        fine(trees.toString());
-        at(2, trees + "@tree 0 0 1 1;");
-        at(2, trees + "@tree");
+        check.fine(trees.toString());
+        check.at(2, trees + "@tree 0 0 1 1;");
+        check.at(2, trees + "@tree");
         StringBuilder houses = new StringBuilder();
         for (int i = 0; i < 6; i++) {
             houses.append(i % 2 == 0 ? "inn " : "blind ").append(i).append(" 0 7;");
         }
-        fine(houses.toString());
-        at(2, houses + "@villa 7 7 1;");
-        fine("tax 1;tax 2;tax 3;tax 4;");
-        at(2, "tax 1;tax 2;tax 3;tax 4;@tax;");
-        at(2, "fog 1 1 1 1 1 1 1 1 @1 1;");
-        at(2, "fog 1 1 1 1 1 1 1 1 @0;");
-        at(1, "fog 1 1 1 1 1 1 1 1 @fog;");
-        at(5, "fog 1;@fog;");
-        at(5, "fog 1;tax 1;@fog 1;");
+        check.fine(houses.toString());
+        check.at(2, houses + "@villa 7 7 1;");
+        check.fine("tax 1;tax 2;tax 3;tax 4;");
+        check.at(2, "tax 1;tax 2;tax 3;tax 4;@tax;");
+        check.at(2, "fog 1 1 1 1 1 1 1 1 @1 1;");
+        check.at(2, "fog 1 1 1 1 1 1 1 1 @0;");
+        check.at(1, "fog 1 1 1 1 1 1 1 1 @fog;");
+        check.at(5, "fog 1;@fog;");
+        check.at(5, "fog 1;tax 1;@fog 1;");
     }
 
     private static void laws() {
-        at(1, "tax @;");
-        at(1, "tax @");
-        at(1, "tax @)");
-        at(1, "tax @* 2;");
-        at(1, "tax @-1;");
-        at(1, "tax 1 @2;");
-        at(1, "tax 1 @12345;");
-        at(1, "tax 1 @miles;");
-        at(1, "tax 1 @not 1;");
-        at(1, "tax 1 @(2);");
-        at(1, "tax (1@;");
-        at(1, "tax (1)@);");
-        at(1, "tax (@);");
-        at(1, "tax (1@");
-        at(1, "tax 1 @# 2;");
-        at(1, "tax 1 + @# 2;");
-        at(1, "tax 1 < 2 @< 3;");
-        at(1, "tax 1 = 2 + 3 * 4 @< 3;");
-        at(1, "tax not 1 = 2 @= 3;");
-        at(1, "tax (1 < 2 @= 3);");
-        at(1, "tax 1 + + 2;".replace("+ +", "+ @+"));
-        at(2, "tax @12345;");
-        at(2, "tax 1 + @00000;");
-        fine("tax 9999 * 9999;");
-        fine("tax (1 < 2) < 3;");
-        fine("tax 1 < (2 < 3);");
-        fine("tax 1 < 2 and 3 < 4 or 5 = 6;");
-        fine("tax 1 < 2 or not 3 < 4;");
-        fine("tax not not 1 + 2;");
-        fine("tax 1 and not 2;");
-        fine("tax 1*2/3+4-5<6 and 7=8 or 9;");
-        fine("tax(miles)+(far)*2;");
+        check.at(1, "tax @;");
+        check.at(1, "tax @");
+        check.at(1, "tax @)");
+        check.at(1, "tax @* 2;");
+        check.at(1, "tax @-1;");
+        check.at(1, "tax 1 @2;");
+        check.at(1, "tax 1 @12345;");
+        check.at(1, "tax 1 @miles;");
+        check.at(1, "tax 1 @not 1;");
+        check.at(1, "tax 1 @(2);");
+        check.at(1, "tax (1@;");
+        check.at(1, "tax (1)@);");
+        check.at(1, "tax (@);");
+        check.at(1, "tax (1@");
+        check.at(1, "tax 1 @# 2;");
+        check.at(1, "tax 1 + @# 2;");
+        check.at(1, "tax 1 < 2 @< 3;");
+        check.at(1, "tax 1 = 2 + 3 * 4 @< 3;");
+        check.at(1, "tax not 1 = 2 @= 3;");
+        check.at(1, "tax (1 < 2 @= 3);");
+        check.at(1, "tax 1 + @+ 2;");
+        check.at(2, "tax @12345;");
+        check.at(2, "tax 1 + @00000;");
+        check.fine("tax 9999 * 9999;");
+        check.fine("tax (1 < 2) < 3;");
+        check.fine("tax 1 < (2 < 3);");
+        check.fine("tax 1 < 2 and 3 < 4 or 5 = 6;");
+        check.fine("tax 1 < 2 or not 3 < 4;");
+        check.fine("tax not not 1 + 2;");
+        check.fine("tax 1 and not 2;");
+        check.fine("tax 1*2/3+4-5<6 and 7=8 or 9;");
+        check.fine("tax(miles)+(far)*2;");
     }
 
     private static void depths() {
-        fine("tax (((((1)))));");
-        fine("tax (((((not 1)))));");
-        at(2, "tax ((((((@1))))));");
-        at(2, "tax ((((((@12345))))));");
-        at(2, "tax ((((((@miles))))));");
-        at(2, "tax ((((((@what))))));");
-        at(2, "tax ((((((@not 1))))));");
-        at(2, "tax ((((((@and 1))))));");
-        at(2, "tax ((((((@(1)))))));");
-        at(1, "tax ((((((@))))));");
-        at(1, "tax ((((((@+1))))));");
-        at(1, "tax ((((((@#))))));");
-        at(1, "tax ((((((@");
-        at(2, "tax 1 + (2 * (3 - (4 + (5 + (6 + (@7))))));");
-        fine("tax (((((1))))) + (((((1)))));");
-        fine("tax not not not not not not 1;");
-        at(2, "tax not not not not not not @not 1;");
-        at(2, "tax 1 and not not not not not not @not 1;");
-        fine("tax not not not not not not 1 or not not not not not not 1;");
-        fine("tax not not not not not not (not not not not not not 1);");
-        at(2, "tax (((((not not not not not not (@1))))));");
+        check.fine("tax (((((1)))));");
+        check.fine("tax (((((not 1)))));");
+        check.at(2, "tax ((((((@1))))));");
+        check.at(2, "tax ((((((@12345))))));");
+        check.at(2, "tax ((((((@miles))))));");
+        check.at(2, "tax ((((((@what))))));");
+        check.at(2, "tax ((((((@not 1))))));");
+        check.at(2, "tax ((((((@and 1))))));");
+        check.at(2, "tax ((((((@(1)))))));");
+        check.at(1, "tax ((((((@))))));");
+        check.at(1, "tax ((((((@+1))))));");
+        check.at(1, "tax ((((((@#))))));");
+        check.at(1, "tax ((((((@");
+        check.at(2, "tax 1 + (2 * (3 - (4 + (5 + (6 + (@7))))));");
+        check.fine("tax (((((1))))) + (((((1)))));");
+        check.fine("tax not not not not not not 1;");
+        check.at(2, "tax not not not not not not @not 1;");
+        check.at(2, "tax 1 and not not not not not not @not 1;");
+        check.fine("tax not not not not not not 1 or not not not not not not 1;");
+        check.fine("tax not not not not not not (not not not not not not 1);");
+        check.at(2, "tax (((((not not not not not not (@1))))));");
     }
 
     private static void values() {
-        fine("tax miles+far+high+kind+year+houses+floor;");
-        at(3, "tax @view;");
-        at(3, "tax @mile;");
-        at(3, "tax @piles;");
-        at(3, "tax @z;");
-        at(3, "tax @a;");
-        at(1, "tax @`;");
-        at(1, "tax @{;");
-        at(1, "tax 1@:;");
-        at(3, "tax @miless;");
-        at(3, "tax @tax;");
-        at(3, "tax @and;");
-        at(3, "tax @or 1;");
-        at(3, "tax not @and;");
-        at(3, "tax 1 + @not 2;");
-        at(3, "tax 1 < @not 2;");
-        at(3, "tax 1 = @not not not not not not not 2;");
-        at(3, "tax 1 * @land;");
-        at(3, "tax 1 and @house;");
-        at(3, "tax (@view);");
-        at(1, "tax @Miles;");
-        at(1, "tax miles@2;");
-        at(1, "tax 2@miles;");
+        check.fine("tax miles+far+high+kind+year+houses+floor;");
+        check.at(3, "tax @view;");
+        check.at(3, "tax @mile;");
+        check.at(3, "tax @piles;");
+        check.at(3, "tax @z;");
+        check.at(3, "tax @a;");
+        check.at(1, "tax @`;");
+        check.at(1, "tax @{;");
+        check.at(1, "tax 1@:;");
+        check.at(3, "tax @miless;");
+        check.at(3, "tax @tax;");
+        check.at(3, "tax @and;");
+        check.at(3, "tax @or 1;");
+        check.at(3, "tax not @and;");
+        check.at(3, "tax 1 + @not 2;");
+        check.at(3, "tax 1 < @not 2;");
+        check.at(3, "tax 1 = @not not not not not not not 2;");
+        check.at(3, "tax 1 * @land;");
+        check.at(3, "tax 1 and @house;");
+        check.at(3, "tax (@view);");
+        check.at(1, "tax @Miles;");
+        check.at(1, "tax miles@2;");
+        check.at(1, "tax 2@miles;");
     }
 
     private static void whatStays() {
