@@ -143,7 +143,7 @@ final class ForecastEdges extends Edges {
         x.call("tell", 0, 2);
         x.is(-1, "cheat");
         // Not by a cell with a house, though it would help to lower it; by one with a tree.
-        Run inn = land("land 3 1;villa 0 0 0;inn 1 0 0;high 1 0 5;");
+        Run inn = land("land 3 1;villa 0 0 0;inn 1 0 0;high 1 0 5;high 2 0 3;");
         inn.call("tell", 0, 2);
         inn.is(-1, "cheat");
         // The tree stands on 5 at 6; on 0 it is 1 high and hides (-1 and -1) the end.
@@ -162,6 +162,21 @@ final class ForecastEdges extends Edges {
         two.call("tell", 0, 8);
         two.call("tell", 1, 99);
         two.is(11, "cheat");
+        // Of two liars only the one of them, whose view is not the other one's, can be mended: by cell 1, by cell 4.
+        Run rows = land("land 3 2;villa 0 0 0;inn 0 1 0;");
+        for (int direction = 0; direction < 8; direction++) {
+            if (direction != 2) {
+                rows.call("sell", 0, direction);
+                rows.call("sell", 1, direction);
+            }
+        }
+        rows.call("tell", 0, 1);
+        rows.call("tell", 1, 99);
+        rows.is(11, "cheat");
+        rows.call("forget");
+        rows.call("tell", 0, 99);
+        rows.call("tell", 1, 1);
+        rows.is(41, "cheat");
     }
 
     private void leastCheat() {
@@ -381,6 +396,19 @@ final class ForecastEdges extends Edges {
         longest.is(5, "sale", 0);
         Run up = land("villa 3 7 0;");
         up.is(0, "sale", 0);
+        // Each house's own views.
+        Run second = land("land 2 1;villa 0 0 0;villa 1 0 0;");
+        second.call("sell", 0, 2);
+        second.is(-1, "sale", 0);
+        second.is(6, "sale", 1);
+        // What is sold stays so: the view of 5 does not come back for that of 1.
+        Run sold = land("land 7 2;blind 0 1 0;villa 5 0 0;tax far;");
+        sold.call("sell", 1, 6);
+        sold.call("sell", 1, 5);
+        sold.call("sell", 1, 4);
+        sold.call("sell", 1, 3);
+        sold.is(1, "house", 1, 7);
+        sold.is(2, "sale", 1);
         // As much as now, or more, is not less.
         land("land 5 1;villa 2 0 0;tax far;").is(-1, "sale", 0);
         land("villa 0 0 0;tax 99-miles;").is(-1, "sale", 0);

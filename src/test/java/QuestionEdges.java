@@ -99,6 +99,18 @@ final class QuestionEdges extends Edges {
         kept(x, 1, 3);
         x.is(-1, "firs", 3, 0);
         x.is(-1, "firs", 1, 0);
+        // Each has a view that the other one has not: to the right in the first row, and in the second one.
+        Run rows = land("land 3 2;villa 0 0 0;inn 0 1 0;tax miles*9;");
+        for (int direction = 0; direction < 8; direction++) {
+            if (direction != 2) {
+                rows.call("sell", 0, direction);
+                rows.call("sell", 1, direction);
+            }
+        }
+        rows.is(2, "firs", 3, 9);
+        kept(rows, 1, 4);
+        rows.is(1, "firs", 2, 9);
+        kept(rows, 4);
         // By the law in force now, in the fog of now, with trees as they are now.
         Run now = land("land 8 1;villa 0 0 0;fog 3 5;tax miles*10;tax 0;");
         now.is(0, "firs", 1, 30);
@@ -130,6 +142,11 @@ final class QuestionEdges extends Edges {
         kept(x, 2, 4);
         x.is(-1, "firs", 1, 1);
         kept(x, 2, 4);
+        // Two side by side: without the right view there are 2 down and 2 on the slant.
+        Run beside = land("land 3 3;villa 0 0 0;");
+        beside.call("sell", 0, 2);
+        beside.is(2, "firs", 1, 2);
+        kept(beside, 3, 4);
         // The land's first and last cells, too: behind a ridge a fir is seen, and by such a law that helps.
         Run left = land("land 3 1;villa 2 0 0;high 1 0 2;tax 9-miles;");
         left.is(1, "firs", 1, 7);
@@ -170,6 +187,13 @@ final class QuestionEdges extends Edges {
         view.is(2, "spades", 0, 2);
         view.is(4, "spades", 0, 1);
         view.is(-1, "spades", 0, 0);
+        // Each house's own floor.
+        Run last = land(houses(6) + "tax floor+3;");
+        last.call("floor", 4, 3);
+        last.call("floor", 5, 2);
+        last.is(0, "spades", 0, 3);
+        last.is(6, "spades", 4, 0);
+        last.is(5, "spades", 5, 0);
         // Of a blind one there is nothing to dig away.
         land("blind 0 0 0;").is(0, "spades", 0, 0);
     }
@@ -212,6 +236,12 @@ final class QuestionEdges extends Edges {
         fresh().is(0, "ruin");
         land("villa 0 0 0;tax 0;").is(0, "ruin");
         land("tree 0 0 1 1;").is(0, "ruin");
+        // Without its ridge the villa would owe more, but that is no tree.
+        land("land 3 2;villa 0 0 3;high 1 0 5;tree 2 1 1 9;").is(0, "ruin");
+        // The last one of six houses: behind the tree there are 6 more to the right.
+        Run six = land("blind 0 0 0;blind 1 0 0;blind 2 0 0;blind 3 0 0;blind 4 0 0;villa 0 7 15;tree 1 7 9 9;");
+        six.is(15, "house", 5, 7);
+        six.is(1, "ruin");
         // The twelfth one alone stands beside the villa: up 7, left 1 (of 7), up and left 7.
         Run last = land(trees(11) + "tree 6 7 9 9;villa 7 7 15;");
         last.is(15, "house", 0, 7);
@@ -229,6 +259,9 @@ final class QuestionEdges extends Edges {
         x.is(0, "compare", 1, 1);
         x.is(12, "compare", 2, 0);
         x.is(4, "compare", 2, 1);
+        // The one that pays most may be any one of them.
+        land("villa 0 0 0;inn 7 7 0;blind 7 0 0;tax 9-kind;").is(9, "compare", 0, 1);
+        land("villa 0 0 0;inn 7 7 0;blind 7 0 0;tax (kind=1)*9;").is(9, "compare", 0, 1);
         // Whichever is in force.
         x.call("obey", 1);
         x.is(12, "compare", 2, 0);
@@ -303,6 +336,9 @@ final class QuestionEdges extends Edges {
         row(six, 1, 5, 3, 0, 4, 2);
         six.is(7, "round", 7);
         row(six, 2, 4, 0, 3, 1, 5);
+        Run column = land("land 1 8;villa 0 7 0;");
+        column.is(7, "round", 0);
+        column.is(0, "round", 7);
         // Neither height nor tree is in the way.
         Run wall = land("land 3 1;high 1 0 9;tree 1 0 9 9;villa 2 0 0;");
         wall.is(2, "round", 0);

@@ -293,6 +293,15 @@ final class SightEdges extends Edges {
         x.is(9, "tree", 4, 1);
         x.is(1, "tree", 0, 2);
         x.is(9, "tree", 4, 2);
+        // Also within years that go by at once: up to 4 high the tree does not hide what stands at 8 behind it (3 and 2).
+        Run once = land("land 3 1;villa 0 0 50;tree 1 0 1 9;high 2 0 8;");
+        once.call("years", 6);
+        once.is(50 - 4 * 2 - 2, "house", 0, 2);
+        once.call("undo");
+        for (int year = 1; year <= 6; year++) {
+            once.call("years", 1);
+            once.is(50 - 2 * Math.min(year, 4) - Math.max(0, year - 4), "house", 0, 2);
+        }
     }
 
     private void oneYearMore() {

@@ -81,8 +81,7 @@ final class StateCallEdges extends Edges {
             + "from it (bits).", this::houses);
         of("NoSuchElementException: no such HOUSE (as everywhere), what.", this::noSuchHouse);
         under("Promise 9");
-        of("`int miles(int house, int direction) throws NoSuchElementException`: MILES in a DIRECTION.",
-            () -> twins.each(Check.NO_SUCH, "miles", new int[] {0, 0}, 0, -1, 2, MIN, MAX));
+        of("`int miles(int house, int direction) throws NoSuchElementException`: MILES in a DIRECTION.", this::miles);
         of("NoSuchElementException: also no such DIRECTION.",
             () -> twins.each(Check.NO_SUCH, "miles", new int[] {0, 0}, 1, -1, 8, MIN, MAX));
         under("Promise 10");
@@ -221,6 +220,17 @@ final class StateCallEdges extends Edges {
         y.call("tell", 0, 100);
         y.with("tax 1;");
         Portrait.compare(check, "", Portrait.of(y), Portrait.of(x));
+        // Nothing is left of what was told ahead of it, one text ago or two.
+        String full = "land 3 3;" + "tree 0 0 1 9;tree 1 0 9 9;villa 0 1 9;blind 1 1 8;high 0 0 9;high 2 2 9;fog 1 2;"
+            + "tax not 1;tax 2;tax not (3 < 4);";
+        for (String next : new String[] {"", "tax 5;", "tree 7 7 1 1;villa 6 6 3;tax 5;", "high 0 0 1;fog 3;"}) {
+            Map<String, Long> want = Portrait.withoutImage(land(next));
+            Portrait.compare(check, "behind one: ", want, Portrait.withoutImage(land(full).with(next)));
+            Portrait.compare(check, "behind two: ", want, Portrait.withoutImage(land(full).with(full).with(next)));
+            Portrait.compare(check, "a text between: ", want, Portrait.withoutImage(land(full).with("").with(next)));
+        }
+        land(Edges.trees(12)).with(Edges.trees(12)).with(Edges.trees(12)).is(11, "tree", 11, 0);
+        land(Edges.houses(6)).with(Edges.houses(6)).with(Edges.houses(6)).is(5, "house", 5, 0);
     }
 
     private void allStays() {
@@ -235,6 +245,28 @@ final class StateCallEdges extends Edges {
             return x;
         });
         faulty.traces(Map.of("fault()", 30L, "count(11)", 0L, "count(12)", 3L), 4, "duchy", 34);
+        // Nor does a text that was begun leave anything to the next one, wherever it ended.
+        for (String begun : TextEdges.beginnings()) {
+            Run x = fresh();
+            x.told(begun + "#");
+            x.is(0, "count", 4);
+            x.with("villa 6 6 3;tree 7 7 1 1;tax 5;tax not 0;tax (7);");
+            x.is(5, "compare", 0, 0);
+            x.is(1, "compare", 1, 0);
+            x.is(7, "compare", 2, 0);
+            x.is(63, "tree", 0, 0);
+            x.is(54, "house", 0, 0);
+            x.is(8, "count", 0);
+            x.is(0, "cell", 0, 0);
+            x.is(9, "count", 7);
+        }
+        for (String law : new String[] {"((((((1", "not not not not not not not", "(not (1+2*(3<", "12345"}) {
+            Run x = fresh();
+            x.told("tax " + law);
+            x.with("villa 0 0 0;tax (((((not not not not not not 8)))));tax 1+2*3<7;");
+            x.is(1, "compare", 0, 0);
+            x.is(0, "compare", 1, 0);
+        }
     }
 
     private void gone() {
@@ -333,6 +365,51 @@ final class StateCallEdges extends Edges {
                 x.is(want[tree][what], "tree", tree, what);
             }
         }
+        fullLand();
+    }
+
+    /** As many of all as there may be, each unlike the others, so that none may stand where another one does. */
+    private void fullLand() {
+        StringBuilder text = new StringBuilder("tax kind+1;");
+        for (int tree = 0; tree < 12; tree++) {
+            text.append("tree ").append(tree % 8).append(' ').append(tree / 8).append(' ').append(1 + tree % 5).append(' ')
+                .append(1 + tree % 5 + tree % 4).append(';');
+        }
+        for (int house = 0; house < 6; house++) {
+            text.append(new String[] {"villa ", "inn ", "blind "}[house % 3]).append(house).append(" 7 ").append(11 * house)
+                .append(';');
+        }
+        Run x = land(text.toString());
+        fullLandIs(x, 0, false);
+        for (int house = 0; house < 6; house++) {
+            x.call("floor", house, house - 3);
+            x.call("barn", house, 5 - house);
+            x.call("sell", house, house);
+            x.call("sell", house, 7);
+        }
+        fullLandIs(x, 0, true);
+        x.call("years", 1);
+        fullLandIs(x, 1, true);
+        for (int left = 24; left >= 0; left--) {
+            x.is(left, "undo");
+        }
+        fullLandIs(x, 0, false);
+    }
+
+    private void fullLandIs(Run x, int year, boolean acted) {
+        for (int tree = 0; tree < 12; tree++) {
+            x.is(tree, "tree", tree, 0);
+            x.is(1 + tree % 5 + Math.min(year, tree % 4), "tree", tree, 1);
+            x.is(1 + tree % 5 + tree % 4, "tree", tree, 2);
+        }
+        for (int house = 0; house < 6; house++) {
+            x.is(11 * house - year * (house % 3 + 1), "house", house, 2);
+            x.is(acted ? house - 3 : 0, "house", house, 3);
+            x.is(acted ? 5 - house : 0, "house", house, 4);
+            x.is(acted ? 1 << house | 1 << 7 : 0, "house", house, 5);
+        }
+        x.is(0, "count", 5);
+        x.is(year, "count", 6);
     }
 
     private void noSuchTree() {
@@ -359,6 +436,11 @@ final class StateCallEdges extends Edges {
                 x.is(want[house][what], "house", house, what);
             }
         }
+        // Asked in any order.
+        x.is(5, "house", 1, 8);
+        x.is(6, "house", 0, 8);
+        x.is(0, "house", 2, 8);
+        x.is(5, "house", 1, 6);
         x.call("sell", 1, 0);
         x.is(1, "house", 1, 5);
         x.call("sell", 1, 7);
@@ -381,6 +463,18 @@ final class StateCallEdges extends Edges {
         Run six = land(houses(6));
         six.is(5, "house", 5, 0);
         six.noSuch("house", 6, 0);
+    }
+
+    private void miles() {
+        twins.each(Check.NO_SUCH, "miles", new int[] {0, 0}, 0, -1, 2, MIN, MAX);
+        // The views of a house in the land's first column, from the first direction to the last one.
+        Run x = land("land 3 4;villa 0 1 0;blind 2 3 0;");
+        int[] miles = {1, 1, 2, 2, 2, 0, 0, 0};
+        for (int direction = 0; direction < 8; direction++) {
+            x.is(miles[direction], "miles", 0, direction);
+            x.is(0, "miles", 1, direction);
+        }
+        x.is(8, "house", 0, 6);
     }
 
     private void seen() {
@@ -665,6 +759,19 @@ final class StateCallEdges extends Edges {
         // It stays over a text with a fault.
         x.is(1, "duchy", 4);
         x.is(1, "restore");
+        // Returns as they were, of the same houses.
+        Run told = land(SMALL);
+        told.call("tell", 0, 4);
+        told.call("tell", 1, 99);
+        told.is(2, "liars");
+        told.call("image");
+        told.call("forget");
+        told.call("tell", 1, 98);
+        told.call("tell", 0, 97);
+        told.is(3, "liars");
+        told.is(1, "restore");
+        told.is(2, "liars");
+        told.is(2, "count", 10);
         // Forty acts and six returns, all of them.
         Run full = land(SMALL);
         for (int i = 0; i < 45; i++) {

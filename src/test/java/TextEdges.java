@@ -227,6 +227,7 @@ final class TextEdges extends Edges {
         law(10, "100/5/2");
         law(40, "100/5*2");
         law(6, "7/2*2");
+        law(7, "5*3/2");
         law(14, "2+3*4");
         law(20, "(2+3)*4");
         law(1, "1 or 0 and 0");
@@ -234,6 +235,12 @@ final class TextEdges extends Edges {
         law(0, "not 1 or 0");
         law(1, "1<1+1");
         law(1, "not 1=2");
+        // Each law by itself: nothing of one is left for the next.
+        Run two = land("villa 0 0 0;tax not 1;tax 5;tax (not 1);tax 6;");
+        int[] tax = {0, 5, 0, 6};
+        for (int law = 0; law < 4; law++) {
+            two.is(tax[law], "compare", law, 0);
+        }
     }
 
     private void intsThatWrap() {
@@ -267,28 +274,17 @@ final class TextEdges extends Edges {
     }
 
     private void oneOrZero() {
-        law(7, "(1<2)*7");
-        law(0, "(2<2)*7");
-        law(0, "(3<2)*7");
-        law(7, "(2=2)*7");
-        law(0, "(2=3)*7");
-        law(7, "(not 0)*7");
-        law(0, "(not 1)*7");
-        law(0, "(not 5)*7");
-        law(0, "(not (0-1))*7");
-        law(7, "(not not 5)*7");
-        law(7, "(5 and 6)*7");
-        law(7, "(0-1 and 6)*7");
-        law(0, "(5 and 0)*7");
-        law(0, "(0 and 5)*7");
-        law(0, "(0 and 0)*7");
-        law(7, "(5 or 6)*7");
-        law(7, "(5 or 0)*7");
-        law(7, "(0 or 0-1)*7");
-        law(0, "(0 or 0)*7");
+        for (String one : new String[] {"1<2", "2=2", "not 0", "not not 5", "not not (0-1)", "5 and 6", "0-1 and 6", "5 or 6",
+            "5 or 0", "0 or 5", "0 or 0-1"}) {
+            law(17, "10+(" + one + ")*7");
+        }
+        for (String zero : new String[] {"2<2", "3<2", "2=3", "3=2", "not 1", "not 5", "not (0-1)", "5 and 0", "0 and 5",
+            "0 and 0", "0 or 0"}) {
+            law(10, "10+(" + zero + ")*7");
+        }
         // What wraps to 0 does not hold, what wraps elsewhere does.
-        law(7, "(not 4096*4096*256)*7");
-        law(0, "(not 4096*4096*128)*7");
+        law(17, "10+(not 4096*4096*256)*7");
+        law(10, "10+(not 4096*4096*128)*7");
     }
 
     private void milesAndFar() {
@@ -340,6 +336,8 @@ final class TextEdges extends Edges {
         x.is(0, "house", 3, 7);
         x.call("sell", 0, 6);
         x.is(4, "house", 0, 7);
+        x.is(0, "house", 3, 8);
+        x.is(4 + 8 + 16 + 32, "house", 0, 8);
     }
 
     private void floors() {
@@ -350,6 +348,10 @@ final class TextEdges extends Edges {
             x.is(floor + 3, "house", 0, 7);
             x.is(Math.max(0, floor), "compare", 1, 0);
         }
+        // A number is no floor.
+        Run none = land("villa 0 0 0;tax 0;");
+        none.call("floor", 0, 3);
+        none.is(0, "house", 0, 7);
     }
 
     /** Texts of the first tokens of ALL_LINES: each is whole behind a ';' and ends too soon elsewhere. */
